@@ -661,6 +661,10 @@ public final class PromiseTest {
             due("value(2)", counter.value(2), turn);
             due("word(12)", counter.word(12), turn + 1);
         }
+        counter.setWord(12, 60);
+        counter.run();
+        due("value(2) of a word set after a run", counter.value(2), 60);
+        due("word(12)", counter.word(12), 61);
         sharedParts();
     }
 
